@@ -8,7 +8,6 @@ public final class CaseTest {
         contract();
         contractEnds();
         ofAFormerCase();
-        refused();
         check.end("CaseTest");
     }
 
@@ -100,23 +99,5 @@ public final class CaseTest {
             check.due("6: nobody pays", x.payings(), 0);
             check.due("7: the other one is unknown", x.contract(1, 0), Check.UNKNOWN);
         }
-    }
-
-    private static void refused() {
-        SkippedDay x = Check.opened("MCc13f4Cb0ld9");
-        x.put(4);
-        String before = Check.all(x);
-        int[] whats = {-1, 10, Integer.MIN_VALUE, Integer.MAX_VALUE};
-        for (int what : whats) {
-            check.due("6: about(" + what + ")", x.about(what), Check.BAD);
-            check.due("7: contract(0, " + what + ")", x.contract(0, what), Check.BAD);
-        }
-        check.due("7: contract(0, 7)", x.contract(0, 7), Check.BAD);
-        int[] others = {-1, 2, 5, 32, Integer.MIN_VALUE, Integer.MAX_VALUE};
-        for (int other : others) {
-            check.due("7: contract(" + other + ", 0)", x.contract(other, 0), Check.UNKNOWN);
-            check.due("7: contract(" + other + ", 7)", x.contract(other, 7), Check.UNKNOWN);
-        }
-        check.same("6, 7: nothing changes", Check.all(x), before);
     }
 }

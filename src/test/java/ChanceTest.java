@@ -4,12 +4,9 @@ public final class ChanceTest {
 
     public static void main(String[] args) {
         rule();
-        ruleRefused();
         slips();
-        slipsRefused();
         seed();
         years();
-        yearsRefused();
         check.end("ChanceTest");
     }
 
@@ -41,22 +38,6 @@ public final class ChanceTest {
         ruled(10, 1022, Check.NONE, Check.NONE);
     }
 
-    private static void ruleRefused() {
-        SkippedDay x = new SkippedDay();
-        int[] counts = {-1, 0, 11, 33, Integer.MIN_VALUE, Integer.MAX_VALUE};
-        for (int n : counts) {
-            check.due("24: rule(" + n + ", 0, 0)", x.rule(n, 0, 0), Check.BAD);
-        }
-        check.due("24: rule(1, 2, 0)", x.rule(1, 2, 0), Check.BAD);
-        check.due("24: rule(10, 1024, 0)", x.rule(10, 1024, 0), Check.BAD);
-        check.due("24: rule(10, -1, 0)", x.rule(10, -1, 0), Check.BAD);
-        check.due("24: rule(10, least, 0)", x.rule(10, Integer.MIN_VALUE, 0), Check.BAD);
-        check.due("24: rule(10, greatest, 0)", x.rule(10, Integer.MAX_VALUE, 0), Check.BAD);
-        check.due("24: rule(1, 1, -1)", x.rule(1, 1, -1), Check.BAD);
-        check.due("24: rule(1, 1, 2)", x.rule(1, 1, 2), Check.BAD);
-        check.due("24: rule(10, 274, 2)", x.rule(10, 274, 2), Check.BAD);
-    }
-
     private static void chance(int n, int k, int x, int above, int below) {
         SkippedDay day = new SkippedDay();
         check.due("25: slips(" + n + ", " + k + ", " + x + ", true)", day.slips(n, k, x, true), above);
@@ -83,22 +64,6 @@ public final class ChanceTest {
         chance(6, 6, 9, 531441, 1000000);
         chance(6, 3, 3, 9261, 50000);
         chance(5, 3, 4, 144, 625);
-    }
-
-    private static void slipsRefused() {
-        SkippedDay x = new SkippedDay();
-        int[] counts = {-1, 0, 7, Integer.MIN_VALUE, Integer.MAX_VALUE};
-        for (int n : counts) {
-            check.due("25: slips(" + n + ", 0, 0, true)", x.slips(n, 0, 0, true), Check.BAD);
-        }
-        int[] slipped = {-1, 4, Integer.MIN_VALUE, Integer.MAX_VALUE};
-        for (int k : slipped) {
-            check.due("25: slips(3, " + k + ", 0, false)", x.slips(3, k, 0, false), Check.BAD);
-        }
-        int[] tenths = {-1, 11, Integer.MIN_VALUE, Integer.MAX_VALUE};
-        for (int tenth : tenths) {
-            check.due("25: slips(3, 0, " + tenth + ", true)", x.slips(3, 0, tenth, true), Check.BAD);
-        }
     }
 
     private static void seed() {
@@ -149,15 +114,5 @@ public final class ChanceTest {
             }
         }
         return count;
-    }
-
-    private static void yearsRefused() {
-        SkippedDay x = Check.opened("MCb0ba5");
-        x.seed(5);
-        int[] counts = {-1, 0, 41, Integer.MIN_VALUE, Integer.MAX_VALUE};
-        for (int m : counts) {
-            check.due("27: years(" + m + ")", x.years(m), Check.BAD);
-        }
-        check.due("27: the seed stays", x.seed(0), 5);
     }
 }

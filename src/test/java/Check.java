@@ -39,7 +39,7 @@ final class Check {
         return x;
     }
 
-    /** All that can be asked without a change, as one row, to see that nothing has changed. */
+    /** What can be asked without a change, as one row of 72 answers, to see that nothing has changed. */
     static String all(SkippedDay x) {
         StringBuilder row = new StringBuilder();
         for (int what = 0; what <= 9; what++) {

@@ -4,7 +4,6 @@ public final class DebtsTest {
 
     public static void main(String[] args) {
         net();
-        netRefused();
         payingsOfPairs();
         payingsOfMore();
         check.end("DebtsTest");
@@ -26,14 +25,6 @@ public final class DebtsTest {
         nets("MO019O019O019O019O019O019", -54, 54, 0, 0);
         nets("MO011O022O033O124O235", -6, -3, 1, 8);
         check.due("21: of nothing", new SkippedDay().net(3), 100);
-    }
-
-    private static void netRefused() {
-        SkippedDay x = Check.opened("MO019");
-        int[] parties = {-1, 4, Integer.MIN_VALUE, Integer.MAX_VALUE};
-        for (int party : parties) {
-            check.due("21: net(" + party + ")", x.net(party), Check.UNKNOWN);
-        }
     }
 
     private static void payings(String text, int want) {

@@ -5,6 +5,8 @@ public final class ModelTest {
     private static final Check check = new Check();
     private static final int RUNS = 400;
     private static final int CALLS = 512;
+    /** More than telling a case takes: a later one would ask an object that nothing is promised about any more. */
+    private static final int CALLS_OF_A_TEXT = 100;
     private static final String[] KINDS = {"C", "C", "C", "B", "T", "O", "O"};
 
     private final Random random;
@@ -50,7 +52,9 @@ public final class ModelTest {
     private void step(boolean anyText) {
         int kind = calls == 0 ? 0 : below(60);
         if (kind == 0) {
-            text(anyText);
+            if (calls + CALLS_OF_A_TEXT <= CALLS) {
+                text(anyText);
+            }
         } else if (kind < 24) {
             change(kind);
         } else {

@@ -4,15 +4,12 @@ public final class SeenTest {
 
     public static void main(String[] args) {
         see();
-        seeRefused();
         unsee();
         meant();
         meantByLateDays();
         meantOnTheSkippedDay();
         ofAge();
-        ofAgeRefused();
         agree();
-        agreeRefused();
         check.end("SeenTest");
     }
 
@@ -29,22 +26,6 @@ public final class SeenTest {
         check.due("16: unknown ahead of full", x.see(2, 0), Check.UNKNOWN);
         check.due("16: six", x.about(8), 6);
         check.due("16: no act", x.about(7), 0);
-    }
-
-    private static void seeRefused() {
-        SkippedDay x = Check.opened("MCb14l0");
-        String before = Check.all(x);
-        int[] contracts = {-1, 1, 5, Integer.MIN_VALUE, Integer.MAX_VALUE};
-        for (int contract : contracts) {
-            check.due("16: see(" + contract + ", 0)", x.see(contract, 0), Check.UNKNOWN);
-            check.due("16: unknown ahead of bad", x.see(contract, 12), Check.UNKNOWN);
-            check.due("18: meant(" + contract + ")", x.meant(contract), Check.UNKNOWN);
-        }
-        int[] days = {-1, 12, Integer.MIN_VALUE, Integer.MAX_VALUE};
-        for (int day : days) {
-            check.due("16: see(0, " + day + ")", x.see(0, day), Check.BAD);
-        }
-        check.same("16: nothing changes", Check.all(x), before);
     }
 
     private static void unsee() {
@@ -135,19 +116,6 @@ public final class SeenTest {
         age(x, 0, 13, 13);
     }
 
-    private static void ofAgeRefused() {
-        SkippedDay x = Check.opened("MBa9Bl0");
-        int[] births = {-1, 2, 3, Integer.MIN_VALUE, Integer.MAX_VALUE};
-        for (int birth : births) {
-            age(x, birth, 0, Check.UNKNOWN);
-            age(x, birth, 14, Check.UNKNOWN);
-        }
-        int[] gaps = {-1, 14, Integer.MIN_VALUE, Integer.MAX_VALUE};
-        for (int gap : gaps) {
-            age(x, 0, gap, Check.BAD);
-        }
-    }
-
     private static void agreeing(SkippedDay x, int d, int gap, int want) {
         check.due("20: agree(" + d + ", " + gap + ")", x.agree(d, gap), want);
     }
@@ -171,17 +139,5 @@ public final class SeenTest {
         agreeing(Check.opened("MT29"), 9, 13, 1);
         agreeing(Check.opened("MT20T20T20"), 2, 13, 3);
         agreeing(new SkippedDay(), 0, 0, 0);
-    }
-
-    private static void agreeRefused() {
-        SkippedDay x = Check.opened("MT20");
-        int[] days = {-1, 12, Integer.MIN_VALUE, Integer.MAX_VALUE};
-        for (int day : days) {
-            agreeing(x, day, 0, Check.BAD);
-        }
-        int[] gaps = {-1, 14, Integer.MIN_VALUE, Integer.MAX_VALUE};
-        for (int gap : gaps) {
-            agreeing(x, 0, gap, Check.BAD);
-        }
     }
 }

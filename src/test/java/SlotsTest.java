@@ -10,7 +10,6 @@ public final class SlotsTest {
         again();
         twoSlots();
         whatIsNotKept();
-        refused();
         check.end("SlotsTest");
     }
 
@@ -98,19 +97,5 @@ public final class SlotsTest {
         fresh.put(3);
         check.due("29: without a case", fresh.again(1), 0);
         check.due("29: where it was without a case", fresh.about(4), 2);
-    }
-
-    private static void refused() {
-        SkippedDay x = Check.opened(CASE);
-        x.put(3);
-        String before = Check.all(x);
-        int[] slots = {-1, 2, 32, Integer.MIN_VALUE, Integer.MAX_VALUE};
-        for (int slot : slots) {
-            check.due("28: keep(" + slot + ")", x.keep(slot), Check.UNKNOWN);
-            check.due("29: again(" + slot + ")", x.again(slot), Check.UNKNOWN);
-        }
-        check.due("29: none were kept", x.again(0), Check.LATE);
-        check.due("29: none were kept there either", x.again(1), Check.LATE);
-        check.same("28, 29: nothing changes", Check.all(x), before);
     }
 }

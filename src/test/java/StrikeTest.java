@@ -6,7 +6,6 @@ public final class StrikeTest {
         ofTwo();
         ofThree();
         ofMore();
-        refused();
         check.end("StrikeTest");
     }
 
@@ -55,23 +54,5 @@ public final class StrikeTest {
         check.due("23: six", x.strike(126, 1, 6, 0), 3);
         check.due("23: two", x.strike(set(0, 12), 12, 0, 0), 12);
         check.due("23: six again", x.strike(126, 1, 6, 1), 4);
-    }
-
-    private static void refused() {
-        SkippedDay x = new SkippedDay();
-        int[] sets = {0, 1, 4096, 127, 8191, 8192, 8195, 3 + (1 << 13), 3 + (1 << 30), -1, Integer.MIN_VALUE,
-            Integer.MIN_VALUE + 3, Integer.MAX_VALUE};
-        for (int some : sets) {
-            check.due("23: strike(" + some + ", 0, 0, 0)", x.strike(some, 0, 0, 0), Check.BAD);
-        }
-        int[] gaps = {-1, 13, 14, Integer.MIN_VALUE, Integer.MAX_VALUE};
-        for (int gap : gaps) {
-            check.due("23: strike(3, " + gap + ", 0, 0)", x.strike(3, gap, 0, 0), Check.BAD);
-            check.due("23: strike(3, 0, " + gap + ", 0)", x.strike(3, 0, gap, 0), Check.BAD);
-        }
-        int[] whats = {-1, 2, Integer.MIN_VALUE, Integer.MAX_VALUE};
-        for (int what : whats) {
-            check.due("23: strike(3, 0, 0, " + what + ")", x.strike(3, 0, 0, what), Check.BAD);
-        }
     }
 }

@@ -10,7 +10,6 @@ public final class TextTest {
         faultByNumber();
         faultByLength();
         open();
-        openRefused();
         check.end("TextTest");
     }
 
@@ -194,21 +193,5 @@ public final class TextTest {
         Check.write(x, "M");
         check.due("5: nothing told", x.open(), 0);
         check.due("5: what was seen waits", x.about(8), 1);
-    }
-
-    private static void openRefused() {
-        SkippedDay x = Check.opened("MCc13f0Cb0dd2Be4T20O011");
-        x.put(3);
-        x.turnVoid(1);
-        x.see(0, 5);
-        x.keep(0);
-        for (String text : new String[] {"", "MCa1", "MCl0ll9Ca0bb0Ca0bb0X", "MT30T40O322Ba", "X"}) {
-            Check.write(x, text);
-            String before = Check.all(x);
-            check.due("5: a fault", x.open(), Check.LATE);
-            check.same("5: refused", Check.all(x), before);
-        }
-        check.due("5: what was kept stays", x.again(0), 0);
-        check.due("5: its contracts stay", x.about(0), 2);
     }
 }

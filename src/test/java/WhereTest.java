@@ -8,10 +8,8 @@ public final class WhereTest {
     public static void main(String[] args) {
         broken();
         brokenByEnds();
-        brokenRefused();
         best();
         bestOfVoid();
-        bestRefused();
         quarrel();
         noQuarrel();
         drop();
@@ -50,15 +48,6 @@ public final class WhereTest {
         check.due("12: in gap 12", x.broken(12), 2 + 4 + 16);
     }
 
-    private static void brokenRefused() {
-        SkippedDay x = Check.opened(QUARREL);
-        int[] gaps = {-1, 14, Check.NONE, Integer.MIN_VALUE, Integer.MAX_VALUE};
-        for (int gap : gaps) {
-            check.due("12: broken(" + gap + ")", x.broken(gap), Check.BAD);
-        }
-        check.due("12: of nothing", new SkippedDay().broken(13), 0);
-    }
-
     private static void bestOf(SkippedDay x, int those, int where, int count) {
         check.due("13: best(" + those + ", 0)", x.best(those, 0), where);
         check.due("13: best(" + those + ", 1)", x.best(those, 1), count);
@@ -91,21 +80,6 @@ public final class WhereTest {
         bestOf(x, 0, 3, 0);
         x.turnVoid(0);
         bestOf(x, 3, 0, 0);
-    }
-
-    private static void bestRefused() {
-        SkippedDay x = Check.opened(QUARREL);
-        String before = Check.all(x);
-        int[] those = {-1, 8, 15, Integer.MIN_VALUE, Integer.MAX_VALUE};
-        for (int some : those) {
-            check.due("13: best(" + some + ", 0)", x.best(some, 0), Check.BAD);
-        }
-        int[] whats = {-1, 2, Integer.MIN_VALUE, Integer.MAX_VALUE};
-        for (int what : whats) {
-            check.due("13: best(0, " + what + ")", x.best(0, what), Check.BAD);
-        }
-        check.due("13: of nothing", new SkippedDay().best(1, 0), Check.BAD);
-        check.same("13: nothing changes", Check.all(x), before);
     }
 
     private static void quarrel() {
