@@ -5,7 +5,26 @@ public final class CaseEdgesTest {
     private static final String DAYS = "abcdefghijkl";
 
     /** All five are broken wherever the day is: each ends ahead of its beginning. */
-    private static final String FIVE = "Cb0ba5".repeat(5);
+    private static final String FIVE = "M" + "Cb0ba5".repeat(5);
+
+    private static final String IN_NONE = " ", IN_ALL = " 0 1 2 3 4 5 6 7 8 9 10 11 12 13 ";
+
+    /** On which day from the beginning each DAY comes, a row for each GAP and one for nowhere. */
+    private static final int[][] COMINGS = {
+        {1, 2, 3, 4, 5, 6, 7, 8, 9, 10, 11, 12},
+        {0, 2, 3, 4, 5, 6, 7, 8, 9, 10, 11, 12},
+        {0, 1, 3, 4, 5, 6, 7, 8, 9, 10, 11, 12},
+        {0, 1, 2, 4, 5, 6, 7, 8, 9, 10, 11, 12},
+        {0, 1, 2, 3, 5, 6, 7, 8, 9, 10, 11, 12},
+        {0, 1, 2, 3, 4, 6, 7, 8, 9, 10, 11, 12},
+        {0, 1, 2, 3, 4, 5, 7, 8, 9, 10, 11, 12},
+        {0, 1, 2, 3, 4, 5, 6, 8, 9, 10, 11, 12},
+        {0, 1, 2, 3, 4, 5, 6, 7, 9, 10, 11, 12},
+        {0, 1, 2, 3, 4, 5, 6, 7, 8, 10, 11, 12},
+        {0, 1, 2, 3, 4, 5, 6, 7, 8, 9, 11, 12},
+        {0, 1, 2, 3, 4, 5, 6, 7, 8, 9, 10, 12},
+        {0, 1, 2, 3, 4, 5, 6, 7, 8, 9, 10, 11},
+        {0, 1, 2, 3, 4, 5, 6, 7, 8, 9, 10, 11}};
 
     public static void main(String[] args) {
         aboutLeast();
@@ -14,6 +33,8 @@ public final class CaseEdgesTest {
         aboutGap();
         contractLeastAndGreatest();
         contractWhat();
+        contractVoid();
+        nothingOfAFormerCase();
         daysOneLater();
         countOneLater();
         behindAll();
@@ -40,7 +61,7 @@ public final class CaseEdgesTest {
 
     /** Each number that is told of THE CASE, at its greatest. */
     private static void aboutMost() {
-        SkippedDay x = Check.opened("M" + FIVE + "Ba0".repeat(3) + "O011".repeat(6));
+        SkippedDay x = Check.opened(FIVE + "Ba0".repeat(3) + "O011".repeat(6));
         check.due("6: five contracts", x.about(0), 5);
         check.due("6: three births", x.about(1), 3);
         check.due("6: six debts", x.about(3), 6);
@@ -114,22 +135,35 @@ public final class CaseEdgesTest {
         check.due("7: neither the contract nor what", x.contract(1, 7), Check.UNKNOWN);
     }
 
-    /** On which day from the beginning each DAY comes, a row for each GAP and one for nowhere. */
-    private static final int[][] COMINGS = {
-        {1, 2, 3, 4, 5, 6, 7, 8, 9, 10, 11, 12},
-        {0, 2, 3, 4, 5, 6, 7, 8, 9, 10, 11, 12},
-        {0, 1, 3, 4, 5, 6, 7, 8, 9, 10, 11, 12},
-        {0, 1, 2, 4, 5, 6, 7, 8, 9, 10, 11, 12},
-        {0, 1, 2, 3, 5, 6, 7, 8, 9, 10, 11, 12},
-        {0, 1, 2, 3, 4, 6, 7, 8, 9, 10, 11, 12},
-        {0, 1, 2, 3, 4, 5, 7, 8, 9, 10, 11, 12},
-        {0, 1, 2, 3, 4, 5, 6, 8, 9, 10, 11, 12},
-        {0, 1, 2, 3, 4, 5, 6, 7, 9, 10, 11, 12},
-        {0, 1, 2, 3, 4, 5, 6, 7, 8, 10, 11, 12},
-        {0, 1, 2, 3, 4, 5, 6, 7, 8, 9, 11, 12},
-        {0, 1, 2, 3, 4, 5, 6, 7, 8, 9, 10, 12},
-        {0, 1, 2, 3, 4, 5, 6, 7, 8, 9, 10, 11},
-        {0, 1, 2, 3, 4, 5, 6, 7, 8, 9, 10, 11}};
+    /** "1 if it is VOID (5)" */
+    private static void contractVoid() {
+        SkippedDay x = Check.opened(FIVE);
+        for (int contract = 0; contract < 5; contract++) {
+            check.due("7: it counts at first", x.contract(contract, 5), 0);
+            x.turnVoid(contract);
+            check.due("7: it is void", x.contract(contract, 5), 1);
+            check.due("7: the next one is not", contract < 4 ? x.contract(contract + 1, 5) : 0, 0);
+            x.turnVoid(contract);
+            check.due("7: it counts again", x.contract(contract, 5), 0);
+        }
+    }
+
+    /** "THE CASE is made anew": of more parts before none is left behind those that are told now. */
+    private static void nothingOfAFormerCase() {
+        SkippedDay x = Check.opened("M" + "O239".repeat(6) + "T20".repeat(3) + "Ba9".repeat(3));
+        Check.write(x, FIVE);
+        x.open();
+        Check.write(x, "MO011T50Cb0bb0");
+        x.open();
+        check.due("6: one contract", x.about(0), 1);
+        check.due("6: no birth", x.about(1), 0);
+        check.due("6: none is broken", x.about(6), 0);
+        check.due("7: the next contract", x.contract(1, 0), Check.UNKNOWN);
+        check.due("19: the first birth", x.ofAge(0, 0), Check.UNKNOWN);
+        check.due("20: one tide", x.agree(0, Check.NOWHERE), 1);
+        check.due("21: of the former debts", x.net(2), 100);
+        check.due("21: of the one", x.net(0), 99);
+    }
 
     /** "GAP g is ahead of DAY g; 12: behind all", "DAYS g .. 11 come one later" */
     private static void daysOneLater() {
@@ -171,9 +205,11 @@ public final class CaseEdgesTest {
         check.due("6: still only the one", x.about(6), 1);
     }
 
-    private static void brokenEverywhere(String contract, boolean broken) {
+    /** The one contract is BROKEN with the day in the told places, and in no other. */
+    private static void brokenIn(String contract, String places) {
         SkippedDay x = Check.opened("M" + contract);
         for (int place = 0; place <= 13; place++) {
+            boolean broken = places.contains(" " + place + " ");
             check.due("12: " + contract + " in " + place, x.broken(place), broken ? 1 : 0);
         }
     }
@@ -183,62 +219,54 @@ public final class CaseEdgesTest {
         for (int day = 0; day < 11; day++) {
             char end = DAYS.charAt(day);
             char next = DAYS.charAt(day + 1);
-            brokenEverywhere("Ca0" + end + end + "0", false);
-            brokenEverywhere("Ca0" + end + next + "0", false);
-            brokenEverywhere("Ca0" + next + end + "0", true);
+            brokenIn("Ca0" + end + end + "0", IN_NONE);
+            brokenIn("Ca0" + end + next + "0", IN_NONE);
+            brokenIn("Ca0" + next + end + "0", IN_ALL);
         }
-        brokenEverywhere("Ca0ll0", false);
-        brokenEverywhere("Ca0lk0", true);
-        brokenEverywhere("Ca10a0", false);
-        brokenEverywhere("Cl10l0", false);
-        brokenEverywhere("Cl11l0", true);
-    }
-
-    private static void brokenIn(String contract, String places) {
-        SkippedDay x = Check.opened("M" + contract);
-        for (int place = 0; place <= 13; place++) {
-            boolean broken = places.contains(" " + place + " ");
-            check.due("12: " + contract + " in " + place, x.broken(place), broken ? 1 : 0);
-        }
+        brokenIn("Ca0ll0", IN_NONE);
+        brokenIn("Ca0lk0", IN_ALL);
+        brokenIn("Ca10a0", IN_NONE);
+        brokenIn("Cl10l0", IN_NONE);
+        brokenIn("Cl11l0", IN_ALL);
     }
 
     /** A count that would end a day behind DAY e ends in time just with the skipped day in between, in GAPS s + 1 .. e. */
     private static void endsLaterByTheDay() {
-        brokenIn("Cb13e0", " ");
+        brokenIn("Cb13e0", IN_NONE);
         brokenIn("Cb13d0", " 0 1 4 5 6 7 8 9 10 11 12 13 ");
-        brokenIn("Cb13c0", " 0 1 2 3 4 5 6 7 8 9 10 11 12 13 ");
-        brokenIn("Ca11a0", " 0 1 2 3 4 5 6 7 8 9 10 11 12 13 ");
+        brokenIn("Cb13c0", IN_ALL);
+        brokenIn("Ca11a0", IN_ALL);
         brokenIn("Cc19k0", " 0 1 2 11 12 13 ");
-        brokenIn("Cc19l0", " ");
+        brokenIn("Cc19l0", IN_NONE);
     }
 
     /** "lasts (from its beginning to its end) less than m days": just as long is enough. */
     private static void lastsLess() {
-        brokenEverywhere("Ca13l3", false);
-        brokenEverywhere("Ca13l4", true);
-        brokenEverywhere("Ca19l9", false);
-        brokenEverywhere("Ca18l9", true);
-        brokenEverywhere("Cc0ll9", false);
-        brokenEverywhere("Ca0kl9", false);
-        brokenEverywhere("Ca0hl9", true);
+        brokenIn("Ca13l3", IN_NONE);
+        brokenIn("Ca13l4", IN_ALL);
+        brokenIn("Ca19l9", IN_NONE);
+        brokenIn("Ca18l9", IN_ALL);
+        brokenIn("Cc0ll9", IN_NONE);
+        brokenIn("Ca0kl9", IN_NONE);
+        brokenIn("Ca0hl9", IN_ALL);
     }
 
     /** By name it lasts a day longer with the skipped day inside, in GAPS s + 1 .. v. */
     private static void lastsLessByTheDay() {
-        brokenIn("Ca0dl3", " ");
+        brokenIn("Ca0dl3", IN_NONE);
         brokenIn("Ca0dl4", " 0 4 5 6 7 8 9 10 11 12 13 ");
         brokenIn("Cd0ll9", " 0 1 2 3 12 13 ");
-        brokenIn("Ca0dl5", " 0 1 2 3 4 5 6 7 8 9 10 11 12 13 ");
+        brokenIn("Ca0dl5", IN_ALL);
         brokenIn("Ck0ll2", " 0 1 2 3 4 5 6 7 8 9 10 12 13 ");
     }
 
     /** "to last m (0 .. 9) at least": 0 is enough for one that ends as it begins, not for one that ends ahead of that. */
     private static void lastsNothing() {
-        brokenEverywhere("Cb0bl0", false);
-        brokenEverywhere("Cb0al0", true);
-        brokenEverywhere("Cb10l0", false);
-        brokenEverywhere("Cb10l1", true);
-        brokenEverywhere("Cb0bl1", true);
-        brokenEverywhere("Cl0al0", true);
+        brokenIn("Cb0bl0", IN_NONE);
+        brokenIn("Cb0al0", IN_ALL);
+        brokenIn("Cb10l0", IN_NONE);
+        brokenIn("Cb10l1", IN_ALL);
+        brokenIn("Cb0bl1", IN_ALL);
+        brokenIn("Cl0al0", IN_ALL);
     }
 }

@@ -28,33 +28,27 @@ public final class ChanceEdgesTest {
         check.end("ChanceEdgesTest");
     }
 
-    private static void ruled(int n, int years, int p, int r) {
-        SkippedDay x = new SkippedDay();
-        check.due("24: rule(" + n + ", " + years + ", 0)", x.rule(n, years, 0), p);
-        check.due("24: rule(" + n + ", " + years + ", 1)", x.rule(n, years, 1), r);
-    }
-
     /** "(n 1 .. 10)" */
     private static void ruleYears() {
-        ruled(0, 0, Check.BAD, Check.BAD);
-        ruled(1, 0, 0, 0);
-        ruled(10, 0, 0, 0);
-        ruled(11, 0, Check.BAD, Check.BAD);
-        ruled(-1, 0, Check.BAD, Check.BAD);
-        ruled(11, 1, Check.BAD, Check.BAD);
-        ruled(32, 1, Check.BAD, Check.BAD);
+        check.ruled(0, 0, Check.BAD, Check.BAD);
+        check.ruled(1, 0, 0, 0);
+        check.ruled(10, 0, 0, 0);
+        check.ruled(11, 0, Check.BAD, Check.BAD);
+        check.ruled(-1, 0, Check.BAD, Check.BAD);
+        check.ruled(11, 1, Check.BAD, Check.BAD);
+        check.ruled(32, 1, Check.BAD, Check.BAD);
     }
 
     /** "years (bits of n)": up to all of them, and the first number beyond, for each n */
     private static void ruleBits() {
         for (int n = 1; n <= 10; n++) {
-            ruled(n, -1, Check.BAD, Check.BAD);
-            ruled(n, 0, 0, 0);
-            ruled(n, (1 << n) - 1, 1, 0);
-            ruled(n, 1 << n, Check.BAD, Check.BAD);
-            ruled(n, (1 << n) + 1, Check.BAD, Check.BAD);
-            ruled(n, Integer.MIN_VALUE, Check.BAD, Check.BAD);
-            ruled(n, Integer.MAX_VALUE, Check.BAD, Check.BAD);
+            check.ruled(n, -1, Check.BAD, Check.BAD);
+            check.ruled(n, 0, 0, 0);
+            check.ruled(n, (1 << n) - 1, 1, 0);
+            check.ruled(n, 1 << n, Check.BAD, Check.BAD);
+            check.ruled(n, (1 << n) + 1, Check.BAD, Check.BAD);
+            check.ruled(n, Integer.MIN_VALUE, Check.BAD, Check.BAD);
+            check.ruled(n, Integer.MAX_VALUE, Check.BAD, Check.BAD);
         }
     }
 
@@ -73,7 +67,7 @@ public final class ChanceEdgesTest {
     /** "or 0: none has", "r (1; 0 if p is 0)" */
     private static void ruleNoneHas() {
         for (int n = 1; n <= 10; n++) {
-            ruled(n, 0, 0, 0);
+            check.ruled(n, 0, 0, 0);
         }
     }
 
@@ -82,11 +76,11 @@ public final class ChanceEdgesTest {
         for (int n = 1; n <= 10; n++) {
             for (int year = 0; year < n; year++) {
                 int p = Math.max(year + 1, n - year);
-                ruled(n, 1 << year, p, year);
+                check.ruled(n, 1 << year, p, year);
             }
         }
-        ruled(10, 1, 10, 0);
-        ruled(10, 512, 10, 9);
+        check.ruled(10, 1, 10, 0);
+        check.ruled(10, 512, 10, 9);
     }
 
     /** "the least p (1 .. 10) so that some r (0 .. p - 1) tells it": each r of each p that tells two years at least */
@@ -98,7 +92,7 @@ public final class ChanceEdgesTest {
                     for (int year = r; year < n; year += p) {
                         years |= 1 << year;
                     }
-                    ruled(n, years, p, r);
+                    check.ruled(n, years, p, r);
                 }
             }
         }
@@ -106,32 +100,26 @@ public final class ChanceEdgesTest {
 
     /** "NONE: there is no such p" */
     private static void ruleNone() {
-        ruled(3, 3, Check.NONE, Check.NONE);
-        ruled(3, 6, Check.NONE, Check.NONE);
-        ruled(10, 1023 - 1, Check.NONE, Check.NONE);
-        ruled(10, 1023 - 512, Check.NONE, Check.NONE);
-        ruled(10, 512 + 1 + 2, Check.NONE, Check.NONE);
+        check.ruled(3, 3, Check.NONE, Check.NONE);
+        check.ruled(3, 6, Check.NONE, Check.NONE);
+        check.ruled(10, 1023 - 1, Check.NONE, Check.NONE);
+        check.ruled(10, 1023 - 512, Check.NONE, Check.NONE);
+        check.ruled(10, 512 + 1 + 2, Check.NONE, Check.NONE);
         // 0 and 4 of nine would be told with 8
-        ruled(9, 17, Check.NONE, Check.NONE);
-        ruled(8, 17, 4, 0);
-    }
-
-    private static void chance(int n, int k, int x, int above, int below) {
-        SkippedDay day = new SkippedDay();
-        check.due("25: slips(" + n + ", " + k + ", " + x + ", true)", day.slips(n, k, x, true), above);
-        check.due("25: slips(" + n + ", " + k + ", " + x + ", false)", day.slips(n, k, x, false), below);
+        check.ruled(9, 17, Check.NONE, Check.NONE);
+        check.ruled(8, 17, 4, 0);
     }
 
     private static void noChance(int n, int k, int x) {
-        chance(n, k, x, Check.BAD, Check.BAD);
+        check.chance(n, k, x, Check.BAD, Check.BAD);
     }
 
     /** "each of n years (1 .. 6)" */
     private static void slipsYears() {
         noChance(-1, 0, 0);
         noChance(0, 0, 0);
-        chance(1, 0, 5, 1, 2);
-        chance(6, 0, 5, 1, 64);
+        check.chance(1, 0, 5, 1, 2);
+        check.chance(6, 0, 5, 1, 64);
         noChance(7, 0, 5);
         noChance(Integer.MIN_VALUE, 0, 5);
         noChance(Integer.MAX_VALUE, 0, 5);
@@ -142,8 +130,8 @@ public final class ChanceEdgesTest {
         int[] halves = {1, 2, 4, 8, 16, 32, 64};
         for (int n = 1; n <= 6; n++) {
             noChance(n, -1, 5);
-            chance(n, 0, 5, 1, halves[n]);
-            chance(n, n, 5, 1, halves[n]);
+            check.chance(n, 0, 5, 1, halves[n]);
+            check.chance(n, n, 5, 1, halves[n]);
             noChance(n, n + 1, 5);
             noChance(n, Integer.MIN_VALUE, 5);
             noChance(n, Integer.MAX_VALUE, 5);
@@ -153,10 +141,10 @@ public final class ChanceEdgesTest {
     /** "by x tenths (0 .. 10)" */
     private static void slipsTenths() {
         noChance(1, 1, -1);
-        chance(1, 1, 0, 0, 1);
-        chance(1, 1, 1, 1, 10);
-        chance(1, 1, 9, 9, 10);
-        chance(1, 1, 10, 1, 1);
+        check.chance(1, 1, 0, 0, 1);
+        check.chance(1, 1, 1, 1, 10);
+        check.chance(1, 1, 9, 9, 10);
+        check.chance(1, 1, 10, 1, 1);
         noChance(1, 1, 11);
         noChance(1, 1, Integer.MIN_VALUE);
         noChance(1, 1, Integer.MAX_VALUE);
@@ -166,8 +154,8 @@ public final class ChanceEdgesTest {
     private static void slipsNothing() {
         for (int n = 1; n <= 6; n++) {
             for (int k = 1; k <= n; k++) {
-                chance(n, k, 0, 0, 1);
-                chance(n, n - k, 10, 0, 1);
+                check.chance(n, k, 0, 0, 1);
+                check.chance(n, n - k, 10, 0, 1);
             }
         }
     }
@@ -175,8 +163,8 @@ public final class ChanceEdgesTest {
     /** A chance that is certain is 1 above and 1 below. */
     private static void slipsCertain() {
         for (int n = 1; n <= 6; n++) {
-            chance(n, 0, 0, 1, 1);
-            chance(n, n, 10, 1, 1);
+            check.chance(n, 0, 0, 1, 1);
+            check.chance(n, n, 10, 1, 1);
         }
     }
 
@@ -199,8 +187,8 @@ public final class ChanceEdgesTest {
                 check.due("25: all of " + n + " by " + x, sum, all);
             }
         }
-        chance(6, 6, 1, 1, 1000000);
-        chance(6, 0, 1, 531441, 1000000);
+        check.chance(6, 6, 1, 1, 1000000);
+        check.chance(6, 0, 1, 531441, 1000000);
     }
 
     /** "THE SEED, a long; 0 at first" */

@@ -10,60 +10,48 @@ public final class ChanceTest {
         check.end("ChanceTest");
     }
 
-    private static void ruled(int n, int years, int p, int r) {
-        SkippedDay x = new SkippedDay();
-        check.due("24: rule(" + n + ", " + years + ", 0)", x.rule(n, years, 0), p);
-        check.due("24: rule(" + n + ", " + years + ", 1)", x.rule(n, years, 1), r);
-    }
-
     private static void rule() {
-        ruled(1, 0, 0, 0);
-        ruled(10, 0, 0, 0);
-        ruled(1, 1, 1, 0);
-        ruled(10, 1023, 1, 0);
-        ruled(2, 1, 2, 0);
-        ruled(2, 2, 2, 1);
-        ruled(3, 4, 3, 2);
-        ruled(5, 16, 5, 4);
-        ruled(5, 4, 3, 2);
-        ruled(10, 682, 2, 1);
-        ruled(10, 1, 10, 0);
-        ruled(10, 512, 10, 9);
-        ruled(10, 32, 6, 5);
-        ruled(10, 585, 3, 0);
-        ruled(10, 273, 4, 0);
-        ruled(10, 274, Check.NONE, Check.NONE);
-        ruled(2, 3, 1, 0);
-        ruled(3, 3, Check.NONE, Check.NONE);
-        ruled(10, 1022, Check.NONE, Check.NONE);
-    }
-
-    private static void chance(int n, int k, int x, int above, int below) {
-        SkippedDay day = new SkippedDay();
-        check.due("25: slips(" + n + ", " + k + ", " + x + ", true)", day.slips(n, k, x, true), above);
-        check.due("25: slips(" + n + ", " + k + ", " + x + ", false)", day.slips(n, k, x, false), below);
+        check.ruled(1, 0, 0, 0);
+        check.ruled(10, 0, 0, 0);
+        check.ruled(1, 1, 1, 0);
+        check.ruled(10, 1023, 1, 0);
+        check.ruled(2, 1, 2, 0);
+        check.ruled(2, 2, 2, 1);
+        check.ruled(3, 4, 3, 2);
+        check.ruled(5, 16, 5, 4);
+        check.ruled(5, 4, 3, 2);
+        check.ruled(10, 682, 2, 1);
+        check.ruled(10, 1, 10, 0);
+        check.ruled(10, 512, 10, 9);
+        check.ruled(10, 32, 6, 5);
+        check.ruled(10, 585, 3, 0);
+        check.ruled(10, 273, 4, 0);
+        check.ruled(10, 274, Check.NONE, Check.NONE);
+        check.ruled(2, 3, 1, 0);
+        check.ruled(3, 3, Check.NONE, Check.NONE);
+        check.ruled(10, 1022, Check.NONE, Check.NONE);
     }
 
     private static void slips() {
-        chance(1, 0, 0, 1, 1);
-        chance(1, 1, 0, 0, 1);
-        chance(6, 3, 0, 0, 1);
-        chance(6, 0, 0, 1, 1);
-        chance(6, 6, 10, 1, 1);
-        chance(6, 5, 10, 0, 1);
-        chance(1, 1, 3, 3, 10);
-        chance(1, 0, 3, 7, 10);
-        chance(1, 1, 5, 1, 2);
-        chance(1, 1, 4, 2, 5);
-        chance(2, 1, 5, 1, 2);
-        chance(2, 1, 1, 9, 50);
-        chance(4, 2, 3, 1323, 5000);
-        chance(6, 3, 5, 5, 16);
-        chance(6, 6, 1, 1, 1000000);
-        chance(6, 0, 1, 531441, 1000000);
-        chance(6, 6, 9, 531441, 1000000);
-        chance(6, 3, 3, 9261, 50000);
-        chance(5, 3, 4, 144, 625);
+        check.chance(1, 0, 0, 1, 1);
+        check.chance(1, 1, 0, 0, 1);
+        check.chance(6, 3, 0, 0, 1);
+        check.chance(6, 0, 0, 1, 1);
+        check.chance(6, 6, 10, 1, 1);
+        check.chance(6, 5, 10, 0, 1);
+        check.chance(1, 1, 3, 3, 10);
+        check.chance(1, 0, 3, 7, 10);
+        check.chance(1, 1, 5, 1, 2);
+        check.chance(1, 1, 4, 2, 5);
+        check.chance(2, 1, 5, 1, 2);
+        check.chance(2, 1, 1, 9, 50);
+        check.chance(4, 2, 3, 1323, 5000);
+        check.chance(6, 3, 5, 5, 16);
+        check.chance(6, 6, 1, 1, 1000000);
+        check.chance(6, 0, 1, 531441, 1000000);
+        check.chance(6, 6, 9, 531441, 1000000);
+        check.chance(6, 3, 3, 9261, 50000);
+        check.chance(5, 3, 4, 144, 625);
     }
 
     private static void seed() {

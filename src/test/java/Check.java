@@ -15,6 +15,42 @@ final class Check {
         }
     }
 
+    /** Both answers of best for told ones: where, and how many are BROKEN then. */
+    void best(SkippedDay x, int those, int where, int count) {
+        due("13: best(" + those + ", 0)", x.best(those, 0), where);
+        due("13: best(" + those + ", 1)", x.best(those, 1), count);
+    }
+
+    /** Both answers of strike, by a new object: which GAP is left, and which is struck first. */
+    void struck(int set, int a, int b, int left, int first) {
+        SkippedDay x = new SkippedDay();
+        due("23: strike(" + set + ", " + a + ", " + b + ", 0)", x.strike(set, a, b, 0), left);
+        due("23: strike(" + set + ", " + a + ", " + b + ", 1)", x.strike(set, a, b, 1), first);
+    }
+
+    static int set(int... gaps) {
+        int bits = 0;
+        for (int gap : gaps) {
+            bits |= 1 << gap;
+        }
+        return bits;
+    }
+
+    /** Both answers of rule, by a new object: p and r. */
+    void ruled(int n, int years, int p, int r) {
+        SkippedDay x = new SkippedDay();
+        due("24: rule(" + n + ", " + years + ", 0)", x.rule(n, years, 0), p);
+        due("24: rule(" + n + ", " + years + ", 1)", x.rule(n, years, 1), r);
+    }
+
+    /** Both answers of slips, by a new object: what is above, and what is below. */
+    void chance(int n, int k, int tenths, int above, int below) {
+        SkippedDay x = new SkippedDay();
+        String call = "25: slips(" + n + ", " + k + ", " + tenths;
+        due(call + ", true)", x.slips(n, k, tenths, true), above);
+        due(call + ", false)", x.slips(n, k, tenths, false), below);
+    }
+
     /** Ends the program, with exit code 1 if an answer was not the due one. */
     void end(String test) {
         System.out.println(test + ": " + passed + " passed, " + failed + " failed");

@@ -23,6 +23,9 @@ public final class LanguageTest {
         check.due("public classes", times("public (final )?(class|enum|record|interface)", code), 1);
         check.due("at most twelve classes", times("\\bclass \\w+ \\{", code) <= 12 ? 1 : 0, 1);
         check.due("static fields that are not final", times("\\bstatic (?!final)[\\w\\[\\]]+ \\w+( =|;)", code), 0);
+        check.due("methods of more than seven parameters", times("\\w\\((?:\\w+ \\w+, ){7}", code), 0);
+        check.due("texts joined by +", times("\" \\+ |\\+ \"", code), 0);
+        check.due("arrays of three dimensions", times("\\[\\]\\[\\]\\[\\]", code), 0);
         methodsAreShort(code);
         check.end("LanguageTest");
     }

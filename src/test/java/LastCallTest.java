@@ -14,6 +14,7 @@ public final class LastCallTest {
         debtsAndSides();
         rulesAndChances();
         slots();
+        moreThanPromised();
         check.end("LastCallTest");
     }
 
@@ -99,5 +100,45 @@ public final class LastCallTest {
         last("keep(0)", 1, x -> x.keep(0));
         last("again(1)", 1, x -> x.again(1));
         last("again(0)", Check.LATE, x -> x.again(0));
+    }
+
+    /** "what later calls answer is free": but no call throws, for any arguments in any state. */
+    private static void moreThanPromised() {
+        SkippedDay x = beforeTheLast();
+        int[] numbers = {Integer.MIN_VALUE, -257, -1, 0, 1, 4, 5, 12, 13, 14, 31, 32, 64, 255, 8191, Integer.MAX_VALUE};
+        for (int one : numbers) {
+            for (int other : numbers) {
+                any(x, one, other);
+            }
+        }
+        check.due("calls that ended", 1, 1);
+    }
+
+    private static void any(SkippedDay x, int one, int other) {
+        x.write(one);
+        x.fault();
+        x.about(one);
+        x.contract(one, other);
+        x.put(one);
+        x.turnVoid(one);
+        x.readOtherwise(one);
+        x.broken(one);
+        x.best(one, other);
+        x.see(one, other);
+        x.meant(one);
+        x.ofAge(one, other);
+        x.agree(one, other);
+        x.net(one);
+        x.strike(one, other, one, other);
+        x.strike(126, one, other, 0);
+        x.rule(one, other, 0);
+        x.rule(10, one, other);
+        x.slips(one, other, 5, true);
+        x.slips(6, one, other, false);
+        x.seed(one * 0x1000000010000001L);
+        x.years(one);
+        x.keep(one);
+        x.again(other);
+        x.undo();
     }
 }

@@ -66,18 +66,13 @@ public final class WhereEdgesTest {
             check.due("12: " + some + " in gap 0", x.broken(0), x.broken(13));
             check.due("12: " + some + " in gap 12", x.broken(12), x.broken(13));
         }
-        bestOf(Check.opened("M" + EVER), 1, 0, 0);
-    }
-
-    private static void bestOf(SkippedDay x, int those, int where, int count) {
-        check.due("13: best(" + those + ", 0)", x.best(those, 0), where);
-        check.due("13: best(" + those + ", 1)", x.best(those, 1), count);
+        check.best(Check.opened("M" + EVER), 1, 0, 0);
     }
 
     /** Without a CONTRACT none is BROKEN, and GAP 0 is the least one. */
     private static void bestOfNothing() {
-        bestOf(new SkippedDay(), 0, 0, 0);
-        bestOf(Check.opened("M"), 0, 0, 0);
+        check.best(new SkippedDay(), 0, 0, 0);
+        check.best(Check.opened("M"), 0, 0, 0);
         check.due("13: there is none to be told", new SkippedDay().best(1, 0), Check.BAD);
     }
 
@@ -86,8 +81,8 @@ public final class WhereEdgesTest {
         for (int contracts = 0; contracts <= 5; contracts++) {
             SkippedDay x = Check.opened("M" + EVER.repeat(contracts));
             int all = (1 << contracts) - 1;
-            bestOf(x, 0, 0, 0);
-            bestOf(x, all, 0, 0);
+            check.best(x, 0, 0, 0);
+            check.best(x, all, 0, 0);
             check.due("13: one more than " + contracts, x.best(all + 1, 0), Check.BAD);
             check.due("13: one more besides all", x.best(2 * all + 1, 0), Check.BAD);
             check.due("13: below", x.best(-1, 0), Check.BAD);
@@ -106,48 +101,48 @@ public final class WhereEdgesTest {
 
     /** "NONE": there is no place by which none of the told ones is BROKEN. */
     private static void bestNone() {
-        bestOf(Check.opened("M" + NEVER), 1, Check.NONE, Check.NONE);
-        bestOf(Check.opened("M" + EARLY + LATE), 3, Check.NONE, Check.NONE);
+        check.best(Check.opened("M" + NEVER), 1, Check.NONE, Check.NONE);
+        check.best(Check.opened("M" + EARLY + LATE), 3, Check.NONE, Check.NONE);
         SkippedDay five = Check.opened("M" + EVER.repeat(4) + NEVER);
-        bestOf(five, 31, Check.NONE, Check.NONE);
-        bestOf(five, 16, Check.NONE, Check.NONE);
-        bestOf(five, 15, 0, 1);
+        check.best(five, 31, Check.NONE, Check.NONE);
+        check.best(five, 16, Check.NONE, Check.NONE);
+        check.best(five, 15, 0, 1);
     }
 
     /** "those by which none of the told ones is BROKEN" comes ahead of "those by which fewest are" */
     private static void bestTold() {
         SkippedDay x = Check.opened("M" + EARLY.repeat(4) + LATE);
-        bestOf(x, 0, 1, 1);
-        bestOf(x, 15, 1, 1);
-        bestOf(x, 16, 3, 4);
+        check.best(x, 0, 1, 1);
+        check.best(x, 15, 1, 1);
+        check.best(x, 16, 3, 4);
     }
 
     /** "of these those by which fewest are": also when all are BROKEN wherever it is */
     private static void bestFewest() {
-        bestOf(Check.opened("M" + NEVER.repeat(5)), 0, 0, 5);
-        bestOf(Check.opened("M" + NEVER.repeat(4) + LATE), 0, 3, 4);
-        bestOf(Check.opened("M" + EARLY + LATE + LATE), 0, 3, 1);
+        check.best(Check.opened("M" + NEVER.repeat(5)), 0, 0, 5);
+        check.best(Check.opened("M" + NEVER.repeat(4) + LATE), 0, 3, 4);
+        check.best(Check.opened("M" + EARLY + LATE + LATE), 0, 3, 1);
     }
 
     /** "of these the least" */
     private static void bestLeast() {
-        bestOf(Check.opened("M" + EARLY), 1, 1, 0);
-        bestOf(Check.opened("M" + LATE), 1, 3, 0);
-        bestOf(Check.opened("M" + LATE + EARLY), 0, 1, 1);
+        check.best(Check.opened("M" + EARLY), 1, 1, 0);
+        check.best(Check.opened("M" + LATE), 1, 3, 0);
+        check.best(Check.opened("M" + LATE + EARLY), 0, 1, 1);
         // it holds in GAP 11 alone
-        bestOf(Check.opened("MCk0ll2"), 1, 11, 0);
-        bestOf(Check.opened("MCk0ll2"), 0, 11, 0);
+        check.best(Check.opened("MCk0ll2"), 1, 11, 0);
+        check.best(Check.opened("MCk0ll2"), 0, 11, 0);
     }
 
     /** "(VOID ones do not count)": told or not */
     private static void bestVoid() {
         SkippedDay x = Check.opened("M" + NEVER + LATE);
-        bestOf(x, 1, Check.NONE, Check.NONE);
+        check.best(x, 1, Check.NONE, Check.NONE);
         x.turnVoid(0);
-        bestOf(x, 1, 3, 0);
-        bestOf(x, 3, 3, 0);
+        check.best(x, 1, 3, 0);
+        check.best(x, 3, 3, 0);
         x.turnVoid(1);
-        bestOf(x, 3, 0, 0);
+        check.best(x, 3, 0, 0);
     }
 
     /** "the first two CONTRACTS (by the lesser, then the greater) ...: ten times the lesser and the greater" */

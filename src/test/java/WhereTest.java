@@ -48,38 +48,33 @@ public final class WhereTest {
         check.due("12: in gap 12", x.broken(12), 2 + 4 + 16);
     }
 
-    private static void bestOf(SkippedDay x, int those, int where, int count) {
-        check.due("13: best(" + those + ", 0)", x.best(those, 0), where);
-        check.due("13: best(" + those + ", 1)", x.best(those, 1), count);
-    }
-
     private static void best() {
         SkippedDay x = Check.opened(QUARREL);
-        bestOf(x, 0, 1, 1);
-        bestOf(x, 1, 3, 1);
-        bestOf(x, 2, 1, 1);
-        bestOf(x, 3, Check.NONE, Check.NONE);
-        bestOf(x, 4, 1, 1);
-        bestOf(x, 5, 3, 1);
-        bestOf(x, 7, Check.NONE, Check.NONE);
+        check.best(x, 0, 1, 1);
+        check.best(x, 1, 3, 1);
+        check.best(x, 2, 1, 1);
+        check.best(x, 3, Check.NONE, Check.NONE);
+        check.best(x, 4, 1, 1);
+        check.best(x, 5, 3, 1);
+        check.best(x, 7, Check.NONE, Check.NONE);
         // that a told one holds comes ahead of how many are broken
         x = Check.opened("MCc13e0Ca0cc3Ca0cc3");
-        bestOf(x, 0, 1, 1);
-        bestOf(x, 1, 3, 2);
-        bestOf(x, 6, 1, 1);
-        bestOf(Check.opened("MCb0ba5"), 0, 0, 1);
-        bestOf(Check.opened("MCb0ba5"), 1, Check.NONE, Check.NONE);
-        bestOf(Check.opened("MCa0aa0"), 1, 0, 0);
-        bestOf(new SkippedDay(), 0, 0, 0);
+        check.best(x, 0, 1, 1);
+        check.best(x, 1, 3, 2);
+        check.best(x, 6, 1, 1);
+        check.best(Check.opened("MCb0ba5"), 0, 0, 1);
+        check.best(Check.opened("MCb0ba5"), 1, Check.NONE, Check.NONE);
+        check.best(Check.opened("MCa0aa0"), 1, 0, 0);
+        check.best(new SkippedDay(), 0, 0, 0);
     }
 
     private static void bestOfVoid() {
         SkippedDay x = Check.opened(QUARREL);
         x.turnVoid(1);
-        bestOf(x, 3, 3, 0);
-        bestOf(x, 0, 3, 0);
+        check.best(x, 3, 3, 0);
+        check.best(x, 0, 3, 0);
         x.turnVoid(0);
-        bestOf(x, 3, 0, 0);
+        check.best(x, 3, 0, 0);
     }
 
     private static void quarrel() {
