@@ -35,6 +35,7 @@ public final class CaseEdgesTest {
         contractWhat();
         contractVoid();
         nothingOfAFormerCase();
+        noFormerQuarrel();
         daysOneLater();
         countOneLater();
         behindAll();
@@ -148,21 +149,39 @@ public final class CaseEdgesTest {
         }
     }
 
-    /** "THE CASE is made anew": of more parts before none is left behind those that are told now. */
+    /** "THE CASE is made anew": of more parts before, by one case and by another, none is left behind those told now. */
     private static void nothingOfAFormerCase() {
-        SkippedDay x = Check.opened("M" + "O239".repeat(6) + "T20".repeat(3) + "Ba9".repeat(3));
-        Check.write(x, FIVE);
+        SkippedDay x = Check.opened(FIVE);
+        Check.write(x, "M" + "O239".repeat(6) + "T20".repeat(3) + "Ba9".repeat(3));
         x.open();
         Check.write(x, "MO011T50Cb0bb0");
+        for (int time = 0; time < 3; time++) {
+            x.open();
+            check.due("6: one contract", x.about(0), 1);
+            check.due("6: no birth", x.about(1), 0);
+            check.due("6: none is broken", x.about(6), 0);
+            check.due("7: the next contract", x.contract(1, 0), Check.UNKNOWN);
+            check.due("13: none is broken where best", x.best(0, 1), 0);
+            check.due("15: none is to be dropped", x.drop(), 0);
+            check.due("19: the first birth", x.ofAge(0, 0), Check.UNKNOWN);
+            check.due("20: one tide", x.agree(0, Check.NOWHERE), 1);
+            check.due("21: of the former debts", x.net(2), 100);
+            check.due("21: of the one", x.net(0), 99);
+            check.due("28: none is broken", x.keep(0), 0);
+        }
+    }
+
+    /** The same of a quarrel: with the day in GAPS 3 and 4 alone the one holds, in 1 and 2 alone the others did. */
+    private static void noFormerQuarrel() {
+        SkippedDay x = Check.opened("MCc13e0" + "Ca0cc3".repeat(4));
         x.open();
-        check.due("6: one contract", x.about(0), 1);
-        check.due("6: no birth", x.about(1), 0);
-        check.due("6: none is broken", x.about(6), 0);
-        check.due("7: the next contract", x.contract(1, 0), Check.UNKNOWN);
-        check.due("19: the first birth", x.ofAge(0, 0), Check.UNKNOWN);
-        check.due("20: one tide", x.agree(0, Check.NOWHERE), 1);
-        check.due("21: of the former debts", x.net(2), 100);
-        check.due("21: of the one", x.net(0), 99);
+        check.due("14: it quarrels", x.quarrel(), 1);
+        Check.write(x, "MCc13e0");
+        for (int time = 0; time < 3; time++) {
+            x.open();
+            check.due("14: there is none to quarrel with", x.quarrel(), Check.NONE);
+            check.due("15: all of one hold", x.drop(), 0);
+        }
     }
 
     /** "GAP g is ahead of DAY g; 12: behind all", "DAYS g .. 11 come one later" */
